@@ -637,7 +637,6 @@ public final class BeanContexts {
                 displaceFor(fresh);
             }
             fresh.cached = true;
-            order.add(fresh);
             use(fresh);
             journal.write(EVENT_BUILT, fresh.number);
         }
