@@ -1,35 +1,55 @@
+import java.util.HashSet;
+import java.util.Set;
+
 /**
  * Long runs of calls, drawn by a fixed rule, on the program and on DocModel: every answer has to be
- * the same. At the end each code must have been met, else the runs would prove little.
+ * the same. Some runs draw their needs blindly, so that most builds fail; in others each definition
+ * needs later ones that are there, so that rows of beans grow long and the limits are met. Some look
+ * at everything after each call, others use their calls up and look at the end. At last each code must
+ * have been met by each call that can answer it, else the runs would prove little.
  */
 public final class ModelTest {
     private static final Checks CHECKS = new Checks("ModelTest");
-    private static final int RUNS = 4000;
+    private static final int RUNS = 6000;
     private static final int CALLS = 512;
+    private static final int CALLS_OF_LAST_LOOK = 40;
     private static final int[] ODD = {-2, -1, 4, 6, 8, 10, 16, 32, 200, Integer.MIN_VALUE, Integer.MAX_VALUE};
 
     private final BeanContexts x;
     private final DocModel model;
     private final int run;
-    private final int[] met;
+    private final Set<String> met;
+    private final boolean wellMade;
+    private final boolean watchful;
+    private final int[] types = new int[10];
+    private final int[] qualifiers = new int[10];
+    private int definitions;
+    private int configurations;
+    private int calls;
     private long state;
 
-    private ModelTest(int run, int[] met) {
+    private ModelTest(int run, Set<String> met) {
         this.run = run;
         this.met = met;
         state = run * 2654435761L + 12345;
+        wellMade = draw(2) == 0;
+        watchful = draw(2) == 0;
         int capacity = odd(2 + draw(6));
         x = new BeanContexts(capacity);
         model = new DocModel(capacity);
     }
 
     public static void main(String[] args) {
-        int[] met = new int[9];
+        Set<String> met = new HashSet<>();
         for (int run = 0; run < RUNS; run++) {
             new ModelTest(run, met).play();
         }
-        for (int code = 3; code <= 8; code++) {
-            CHECKS.due("the code -" + code + " was met", met[code] > 0, true);
+        for (int code = -3; code >= -8; code--) {
+            CHECKS.due("request has answered " + code, met.contains("request " + code), true);
+        }
+        for (int code = -3; code >= -7; code--) {
+            CHECKS.due("get has answered " + code, met.contains("get " + code), true);
+            CHECKS.due("a build has failed with " + code, met.contains("failed " + code), true);
         }
         CHECKS.end();
     }
@@ -39,65 +59,75 @@ public final class ModelTest {
         return (int) ((state >>> 33) % bound);
     }
 
+    private boolean oneIn(int bound) {
+        return draw(bound) == 0;
+    }
+
     /** Mostly the argument itself, at times a wrong one. */
     private int odd(int argument) {
-        return draw(60) == 0 ? ODD[draw(ODD.length)] : argument;
+        return oneIn(60) ? ODD[draw(ODD.length)] : argument;
     }
 
     private void same(String call, long got, long want) {
+        calls++;
         CHECKS.due("run " + run + ", " + call, got, want);
-        if (want <= -3 && want >= -8) {
-            met[(int) -want]++;
-        }
     }
 
     private void same(String call, boolean got, boolean want) {
-        CHECKS.due("run " + run + ", " + call, got, want);
+        same(call, got ? 1L : 0L, want ? 1L : 0L);
     }
 
     private void play() {
-        int calls = define() + configure();
-        boolean mayEnd = draw(3) == 0;
-        boolean hungry = draw(5) == 0;
-        while (calls < CALLS) {
+        drawDefinitions();
+        for (int i = 3 + draw(8); i > 0; i--) {
+            configureOne();
+        }
+        boolean mayEnd = oneIn(3);
+        boolean hungry = oneIn(3);
+        while (calls < CALLS - CALLS_OF_LAST_LOOK) {
             int events = model.events();
-            if (hungry && draw(4) != 0) {
-                getOne(draw(8));
-                calls++;
-                continue;
+            if (hungry && !oneIn(4)) {
+                getOne(anyConfiguration());
+            } else {
+                act(mayEnd && calls > CALLS / 2);
             }
-            calls += 1 + act(mayEnd && calls > CALLS / 2);
-            for (int k = 0; k < model.events() - events && k < 32 && calls < CALLS; k++) {
-                same("event(" + k + ")", x.event(k), model.event(k));
-                calls++;
+            if (watchful) {
+                look(model.events() - events);
             }
+        }
+        look(32);
+    }
+
+    /** At the cached contexts and at the latest events, as far as there are calls left. */
+    private void look(int events) {
+        for (int k = 0; k < 7 && calls < CALLS; k++) {
+            same("cached(" + k + ")", x.cached(k), model.cached(k));
+        }
+        for (int k = 0; k < events && k < 32 && calls < CALLS; k++) {
+            same("event(" + k + ")", x.event(k), model.event(k));
         }
     }
 
-    /** What can be defined, drawn at once; answers how many calls that took. */
-    private int define() {
-        int calls = 0;
-        for (int i = draw(7); i > 0; i--) {
+    private void drawDefinitions() {
+        for (int i = draw(wellMade ? 3 : 7); i > 0; i--) {
             extendOne();
-            calls++;
         }
-        boolean manyBroken = draw(4) == 0;
-        boolean manyPrototypes = draw(3) == 0;
-        int definitions = 3 + draw(9);
-        for (int i = 0; i < definitions; i++) {
-            int flags = draw(4) == 0 ? 1 : 0;
-            flags += draw(3) == 0 ? 2 : 0;
-            flags += draw(manyPrototypes ? 2 : 5) == 0 ? 4 : 0;
-            flags += draw(manyBroken ? 4 : 40) == 0 ? 8 : 0;
+        boolean manyBroken = oneIn(wellMade ? 16 : 4);
+        boolean manyPrototypes = oneIn(wellMade ? 2 : 3);
+        for (int i = 3 + draw(9); i > 0; i--) {
+            int flags = oneIn(wellMade ? 12 : 4) ? 1 : 0;
+            flags += oneIn(3) ? 2 : 0;
+            flags += oneIn(manyPrototypes ? 2 : 5) ? 4 : 0;
+            flags += oneIn(manyBroken ? 4 : wellMade ? 100 : 40) ? 8 : 0;
             defineOne(flags);
-            calls++;
         }
-        int needs = draw(2 * definitions);
-        for (int i = 0; i < needs; i++) {
-            needOne(definitions);
-            calls++;
+        for (int i = draw((wellMade ? 4 : 2) * definitions + 1); i > 0; i--) {
+            if (wellMade && !oneIn(40)) {
+                needALaterOne();
+            } else {
+                needOne();
+            }
         }
-        return calls;
     }
 
     private void extendOne() {
@@ -110,45 +140,69 @@ public final class ModelTest {
         int type = odd(draw(6));
         int sum = odd(flags);
         int qualifier = odd(draw(4));
-        int profile = odd(draw(2) * draw(4));
+        int profile = odd(wellMade && !oneIn(8) ? 0 : draw(2) * draw(4));
+        int number = model.define(type, sum, qualifier, profile);
+        if (number >= 0) {
+            types[number] = type;
+            qualifiers[number] = qualifier;
+            definitions = number + 1;
+        }
         same("define(" + type + ", " + sum + ", " + qualifier + ", " + profile + ")",
-                x.define(type, sum, qualifier, profile), model.define(type, sum, qualifier, profile));
+                x.define(type, sum, qualifier, profile), number);
     }
 
-    private void needOne(int definitions) {
-        int d = odd(draw(definitions));
-        int type = odd(draw(6));
-        int qualifier = odd(draw(3) == 0 ? draw(4) : 0);
-        int name = odd(draw(11) - 1);
+    private void needOne() {
+        need(odd(draw(10)), odd(draw(6)), odd(oneIn(3) ? draw(4) : 0), odd(draw(11) - 1));
+    }
+
+    /** Mostly the very next one, so that the rows grow long. */
+    private void needALaterOne() {
+        int d = draw(10);
+        int later = d + 1 + draw(2) * draw(3);
+        if (later < definitions) {
+            need(d, types[later], draw(2) * qualifiers[later], later);
+        }
+    }
+
+    private void need(int d, int type, int qualifier, int name) {
         same("need(" + d + ", " + type + ", " + qualifier + ", " + name + ")",
                 x.need(d, type, qualifier, name), model.need(d, type, qualifier, name));
     }
 
-    private int configure() {
-        int calls = 0;
-        for (int i = 3 + draw(8); i > 0; i--) {
-            configureOne();
-            calls++;
-        }
-        return calls;
+    private void configureOne() {
+        int set = wellMade && !oneIn(3) ? 1023 : oneIn(3) ? draw(1024) : draw(1024) | draw(1024);
+        set = odd(set);
+        int profile = odd(draw(4));
+        int parent = odd(oneIn(2) ? -1 : draw(8));
+        int mocks = odd(oneIn(2) ? 0 : draw(1024) & draw(1024));
+        int number = model.configure(set, profile, parent, mocks);
+        configurations = Math.max(configurations, number + 1);
+        same("configure(" + set + ", " + profile + ", " + parent + ", " + mocks + ")",
+                x.configure(set, profile, parent, mocks), number);
     }
 
-    private void configureOne() {
-        int set = draw(3) == 0 ? draw(1024) : draw(1024) | draw(1024);
-        int profile = odd(draw(4));
-        int parent = odd(draw(2) == 0 ? -1 : draw(8));
-        int mocks = odd(draw(2) == 0 ? 0 : draw(1024) & draw(1024));
-        set = odd(set);
-        same("configure(" + set + ", " + profile + ", " + parent + ", " + mocks + ")",
-                x.configure(set, profile, parent, mocks), model.configure(set, profile, parent, mocks));
+    private int anyConfiguration() {
+        return odd(draw(configurations + 1));
     }
 
     private void getOne(int c) {
-        int type = odd(draw(6));
+        int type = odd(definitions > 0 && !oneIn(4) ? types[draw(definitions)] : draw(6));
         int qualifier = odd(draw(2) * draw(4));
         int name = odd(draw(11) - 1);
+        int answer = model.get(c, type, qualifier, name);
+        met.add("get " + answer);
         same("get(" + c + ", " + type + ", " + qualifier + ", " + name + ")",
-                x.get(c, type, qualifier, name), model.get(c, type, qualifier, name));
+                x.get(c, type, qualifier, name), answer);
+    }
+
+    private void requestOne(int c) {
+        int events = model.events();
+        int answer = model.request(c);
+        met.add("request " + answer);
+        if (model.events() > events && model.event(0) / 64 == 3) {
+            met.add("failed " + answer);
+        }
+        same("request(" + c + ")", x.request(c), answer);
     }
 
     /** Calls that are refused once a configuration is there. */
@@ -159,57 +213,61 @@ public final class ModelTest {
         } else if (what == 1) {
             defineOne(draw(16));
         } else {
-            needOne(10);
+            needOne();
         }
     }
 
-    /** One call, chosen with weights; answers how many calls more it made. */
-    private int act(boolean mayEnd) {
-        int c = odd(draw(8));
-        int bean = odd(draw(3) == 0 ? draw(200) : draw(25));
+    /** One call, chosen with weights. */
+    private void act(boolean mayEnd) {
         int what = draw(40);
         if (what < 9) {
-            same("request(" + c + ")", x.request(c), model.request(c));
-            for (int k = 0; k < 7; k++) {
-                same("cached(" + k + ")", x.cached(k), model.cached(k));
-            }
-            return 7;
+            requestOne(anyConfiguration());
         } else if (what < 18) {
-            getOne(c);
-        } else if (what < 22) {
-            int argument = draw(5) == 0 ? Integer.MAX_VALUE - draw(4) : draw(100) - 50;
-            same("call(" + bean + ", " + argument + ")", x.call(bean, argument), model.call(bean, argument));
-        } else if (what < 25) {
-            int answer = draw(5) == 0 ? Integer.MAX_VALUE - draw(4) : draw(100) - 50;
-            same("stub(" + bean + ", " + answer + ")", x.stub(bean, answer), model.stub(bean, answer));
-        } else if (what < 28) {
-            int k = odd(draw(2));
-            same("recorded(" + bean + ", " + k + ")", x.recorded(bean, k), model.recorded(bean, k));
-        } else if (what < 30) {
-            same("dirty(" + c + ")", x.dirty(c), model.dirty(c));
-        } else if (what < 31) {
-            same("reset(" + c + ")", x.reset(c), model.reset(c));
-        } else if (what < 34) {
-            int k = odd(draw(3));
-            same("wired(" + bean + ", " + k + ")", x.wired(bean, k), model.wired(bean, k));
+            getOne(anyConfiguration());
         } else if (what < 35) {
-            same("definition(" + bean + ")", x.definition(bean), model.definition(bean));
-        } else if (what < 36) {
-            same("failures(" + c + ")", x.failures(c), model.failures(c));
-        } else if (what < 37) {
-            same("key(" + c + ")", x.key(c), model.key(c));
-        } else if (what < 38) {
-            same("events()", x.events(), model.events());
+            actOnABean(what - 18);
         } else if (what < 39) {
-            int k = odd(draw(32));
-            same("event(" + k + ")", x.event(k), model.event(k));
-        } else if (mayEnd && draw(6) == 0) {
+            actOnAConfiguration(draw(6));
+        } else if (mayEnd && oneIn(6)) {
             same("shutdown()", x.shutdown(), model.shutdown());
-        } else if (draw(2) == 0) {
+        } else if (oneIn(2)) {
             defineTooLate();
         } else {
             configureOne();
         }
-        return 0;
+    }
+
+    private void actOnABean(int what) {
+        int bean = odd(oneIn(3) ? draw(200) : draw(25));
+        int number = oneIn(5) ? Integer.MAX_VALUE - draw(4) : draw(100) - 50;
+        int k = odd(draw(3));
+        if (what < 5) {
+            same("call(" + bean + ", " + number + ")", x.call(bean, number), model.call(bean, number));
+        } else if (what < 8) {
+            same("stub(" + bean + ", " + number + ")", x.stub(bean, number), model.stub(bean, number));
+        } else if (what < 12) {
+            same("recorded(" + bean + ", " + k + ")", x.recorded(bean, k), model.recorded(bean, k));
+        } else if (what < 15) {
+            same("wired(" + bean + ", " + k + ")", x.wired(bean, k), model.wired(bean, k));
+        } else {
+            same("definition(" + bean + ")", x.definition(bean), model.definition(bean));
+        }
+    }
+
+    private void actOnAConfiguration(int what) {
+        int c = anyConfiguration();
+        int k = odd(draw(32));
+        if (what < 2) {
+            same("dirty(" + c + ")", x.dirty(c), model.dirty(c));
+        } else if (what == 2) {
+            same("reset(" + c + ")", x.reset(c), model.reset(c));
+        } else if (what == 3) {
+            same("failures(" + c + ")", x.failures(c), model.failures(c));
+        } else if (what == 4) {
+            same("key(" + c + ")", x.key(c), model.key(c));
+        } else {
+            same("events()", x.events(), model.events());
+            same("event(" + k + ")", x.event(k), model.event(k));
+        }
     }
 }
