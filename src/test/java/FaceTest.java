@@ -5,7 +5,10 @@ import java.lang.reflect.Modifier;
 import java.util.Arrays;
 import java.util.TreeSet;
 
-/** The class has the document's face and shows nothing else. */
+/**
+ * The class has the document's face and shows nothing else; what can be seen of LANGUAGE.md's rules 1,
+ * 5 and 11 in the compiled classes holds.
+ */
 public final class FaceTest {
     private static final String[] FACE = {
         "boolean extend(int, int)", "int define(int, int, int, int)", "boolean need(int, int, int, int)",
@@ -45,7 +48,31 @@ public final class FaceTest {
         for (Field field : BeanContexts.class.getDeclaredFields()) {
             checks.due(field + " is private", Modifier.isPrivate(field.getModifiers()), true);
         }
+        checks.due("at most twelve classes", BeanContexts.class.getDeclaredClasses().length < 12, true);
+        keepsToTheRules(checks, BeanContexts.class);
+        for (Class<?> inside : BeanContexts.class.getDeclaredClasses()) {
+            int seen = inside.getModifiers();
+            checks.due(inside + " is static", Modifier.isStatic(seen), true);
+            checks.due(inside + " is hidden", Modifier.isPublic(seen) || Modifier.isProtected(seen), false);
+            keepsToTheRules(checks, inside);
+        }
         checks.end();
+    }
+
+    private static void keepsToTheRules(Checks checks, Class<?> type) {
+        int fields = 0;
+        for (Field field : type.getDeclaredFields()) {
+            boolean isStatic = Modifier.isStatic(field.getModifiers());
+            fields += isStatic ? 0 : 1;
+            checks.due(field + " is final if static", isStatic && !Modifier.isFinal(field.getModifiers()), false);
+        }
+        checks.due(type + " has at most twenty fields", fields <= 20, true);
+        for (Method method : type.getDeclaredMethods()) {
+            checks.due(method + " takes at most seven", method.getParameterCount() <= 7, true);
+        }
+        for (Constructor<?> constructor : type.getDeclaredConstructors()) {
+            checks.due(constructor + " takes at most seven", constructor.getParameterCount() <= 7, true);
+        }
     }
 
     private static String signature(Method method) {
